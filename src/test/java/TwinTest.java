@@ -1,0 +1,170 @@
+/** Promises 27 to 29: twin, swap, unlike; section 7. */
+public final class TwinTest {
+    private static final String POLICY = "constant:tag=n;out:in:make:owner=fresh;add:tag=pair(b,n);mark:tag=before;halt:need 0;";
+
+    public static void main(String[] args) {
+        twin();
+        apart();
+        swap();
+        unlikeCode();
+        unlikeWords();
+        unlikeRegisters();
+        unlikeOutputs();
+        Check.illegal("unlike(4)", () -> new WardEngine().unlike(4));
+        Check.illegal("unlike(-1)", () -> new WardEngine().unlike(-1));
+        Check.end("TwinTest");
+    }
+
+    private static WardEngine busy() {
+        WardEngine x = new WardEngine();
+        Check.good("policy", () -> Check.policy(x, POLICY));
+        Check.good("image", () -> Check.image(x, "clear 4;constant a 1 n 2 tag 6;out a 1;in a 2;make a 3 b 1;add a 4 n 3;mark a 5;"
+                + "halt;input 7 tag 8;input 9;word 50 1 held 2 owner 3;register 7 5 tag 6;"));
+        return x;
+    }
+
+    /** All that can be asked of the machine at hand. */
+    private static String all(WardEngine x) {
+        StringBuilder all = new StringBuilder();
+        for (int what = 0; what < 10; what++) {
+            all.append(x.state(what)).append(' ');
+        }
+        for (int k = 0; k < 96; k++) {
+            all.append(x.wordOf(k, 0)).append(x.wordOf(k, 1)).append(x.wordOf(k, 2));
+            all.append(k < 64 ? x.codeOf(k, 0) + " " + x.codeOf(k, 1) : "");
+            all.append(k < 9 ? x.registerOf(k, 0) + " " + x.registerOf(k, 1) : "");
+            for (int what = 0; what < 6 && k < x.state(9); what++) {
+                all.append(x.journal(k, what)).append(' ');
+            }
+            for (int what = 0; what < 25 && k < x.state(8); what++) {
+                all.append(what > 4 && what < 10 ? 0 : x.cacheOf(k, what)).append(' ');
+            }
+            all.append(k < x.state(7) ? x.pairOf(k, 0) + " " + x.pairOf(k, 1) : "");
+            all.append(k < Math.min(40, x.state(1)) ? " " + x.output(k) : "");
+            all.append(k < 22 ? " " + x.count(k, 0) + x.count(k, 1) + x.count(k, 2) + x.count(k, 3) : "");
+        }
+        return all.append(x.blame()).toString();
+    }
+
+    private static void twin() {
+        WardEngine x = busy();
+        Check.is("unlike at first", x.unlike(0), 0);
+        for (int k = 0; k < 8; k++) {
+            x.twin();
+            String one = all(x);
+            x.swap();
+            Check.same("the twin after " + k, all(x), one);
+            for (int what = 0; what < 4; what++) {
+                Check.is("unlike(" + what + ")", x.unlike(what), WardEngine.NONE);
+            }
+            if (k < 7) {
+                // What does not show by itself (before, clear, inputs) shows by what both do next.
+                x.run(1);
+                String next = all(x);
+                x.swap();
+                x.run(1);
+                Check.same("both go on alike after " + k, all(x), next);
+            }
+        }
+        Check.is("it came to the violation", x.state(0), 3);
+        Check.is("before", x.registerOf(5, 1), 0);
+    }
+
+    private static void apart() {
+        WardEngine x = busy();
+        x.twin();
+        String before = all(x);
+        x.run(6);
+        x.code(0, 0, 0);
+        x.word(0, 1, 1, 1);
+        x.input(1, 1);
+        x.swap();
+        Check.same("the twin is another machine", all(x), before);
+        x.begin(0);
+        x.swap();
+        Check.is("this one stays", x.state(2), 6);
+    }
+
+    private static void swap() {
+        WardEngine x = busy();
+        x.swap();
+        for (int what = 0; what < 10; what++) {
+            Check.is("the other one at first", x.state(what), 0);
+        }
+        x.begin(5);
+        x.register(8, 3, 1);
+        x.swap();
+        Check.is("inputs of the first", x.state(5), 2);
+        x.swap();
+        Check.is("PC of the second", x.registerOf(8, 0), 3);
+        Check.is("the policy is that of both", x.names(1), 1 << 10);
+    }
+
+    private static void unlikeCode() {
+        WardEngine x = new WardEngine();
+        x.code(63, 1, 0);
+        Check.is("int", x.unlike(0), 63);
+        x.code(40, 0, 1);
+        Check.is("tag", x.unlike(0), 40);
+        x.code(20, 2, 2);
+        Check.is("both", x.unlike(0), 20);
+        x.swap();
+        Check.is("from the other side", x.unlike(0), 20);
+        Check.is("words", x.unlike(1), WardEngine.NONE);
+    }
+
+    private static void unlikeWords() {
+        WardEngine x = new WardEngine();
+        x.word(95, 1, 0, 0);
+        Check.is("int", x.unlike(1), 95);
+        x.word(60, 0, 1, 0);
+        Check.is("held", x.unlike(1), 60);
+        x.word(30, 0, 0, 1);
+        Check.is("owner", x.unlike(1), 30);
+        x.word(0, 1, 1, 1);
+        Check.is("all", x.unlike(1), 0);
+        Check.is("code", x.unlike(0), WardEngine.NONE);
+    }
+
+    private static void unlikeRegisters() {
+        WardEngine x = new WardEngine();
+        x.register(8, 0, 1);
+        Check.is("PC's tag", x.unlike(2), 8);
+        x.register(8, 1, 0);
+        Check.is("PC", x.unlike(2), 8);
+        x.register(5, 0, 1);
+        Check.is("tag", x.unlike(2), 5);
+        x.register(2, 1, 0);
+        Check.is("int", x.unlike(2), 2);
+    }
+
+    private static void unlikeOutputs() {
+        WardEngine x = new WardEngine();
+        Check.policy(x, "out:jump:move:");
+        x.code(0, 17, 0);
+        x.code(1, 13, 0);
+        Check.is("none", x.unlike(3), WardEngine.NONE);
+        x.twin();
+        x.run(1);
+        Check.is("one, a 0, and none", x.unlike(3), 0);
+        x.run(7);
+        x.twin();
+        x.run(4);
+        Check.is("six and four", x.unlike(3), 4);
+        x.swap();
+        Check.is("four and six", x.unlike(3), 4);
+        x.register(0, 5, 0);
+        x.run(4);
+        Check.is("six and six", x.unlike(3), 4);
+        x.twin();
+        x.run(100);
+        x.swap();
+        x.run(72);
+        Check.is("beyond forty they aren't kept", x.unlike(3), WardEngine.NONE);
+        Check.is("though there were so many", x.state(1), 42);
+        x.begin(0);
+        Check.is("old ones aren't seen", x.unlike(3), 0);
+        x.twin();
+        Check.is("old ones aren't seen", x.unlike(3), WardEngine.NONE);
+    }
+}
