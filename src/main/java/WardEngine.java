@@ -1191,6 +1191,7 @@ public final class WardEngine {
                 int extra = policy.extras[at];
                 if (step == COLON || step == QUERY) {
                     boolean goes = step == COLON || pop() == 0;
+                    // Jumps go ahead only, so that the loop ends with the steps.
                     at = goes ? Math.max(at, extra - 1) : at;
                 } else if (step >= NEED && step <= OWNER) {
                     conclude(step, extra);

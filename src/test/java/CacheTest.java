@@ -64,6 +64,10 @@ public final class CacheTest {
         x.run(1);
         Check.is("the first is in it", x.state(4), 1);
         Check.is("and stays the first", x.cacheOf(0, 20), 0);
+        x.register(8, 7, 0);
+        x.run(1);
+        Check.is("the last is in it", x.state(4), 2);
+        Check.is("its answer", x.registerOf(0, 1), 7);
         x.register(8, 8, 0);
         x.run(1);
         Check.is("eight", x.state(8), 8);
@@ -71,7 +75,7 @@ public final class CacheTest {
         Check.is("the last", x.cacheOf(7, 20), 8);
         x.register(8, 0, 0);
         x.run(1);
-        Check.is("it is not in it any more", x.state(4), 1);
+        Check.is("it is not in it any more", x.state(4), 2);
         Check.is("and comes behind", x.cacheOf(7, 20), 0);
         Check.is("the first now", x.cacheOf(0, 20), 2);
         Check.outside("cacheOf(8, 0)", () -> x.cacheOf(8, 0));

@@ -36,6 +36,9 @@ public final class DifferTest {
         Check.badState("witness of none", () -> x.witness(0));
         unlike("tag=b;", "tag=b;", 7, WardEngine.NONE);
         unlike("tag=b;", "tag=c;", 7, 1);
+        for (String name : Model.NAMES) {
+            unlike("tag=" + name + "==3;", "", 3, 3);
+        }
         unlike("tag=b+c;", "tag=c+b;", 7, WardEngine.NONE);
         unlike("tag=1;", "tag=2;", 7, 0);
         unlike("", "", 7, WardEngine.NONE);

@@ -193,6 +193,7 @@ public final class MachineTest {
         x.code(0, Check.code(17, 1, 0, 0, 0), 0);
         x.code(1, Check.code(3, 1, 1, 2, 0), 0);
         x.code(2, Check.code(13, 0, 0, 0, 0), 0);
+        x.register(1, 100, 0);
         x.register(2, 3, 0);
         Check.outside("output(0)", () -> x.output(0));
         x.run(3 * 39);
@@ -200,7 +201,7 @@ public final class MachineTest {
         x.run(3 * 6);
         Check.is("how many", x.state(1), 45);
         for (int i = 0; i < 40; i++) {
-            Check.is("output " + i, x.output(i), 3 * i);
+            Check.is("output " + i, x.output(i), 100 + 3 * i);
         }
         Check.outside("output(40)", () -> x.output(40));
         Check.outside("output(-1)", () -> x.output(-1));
@@ -236,10 +237,17 @@ public final class MachineTest {
         x.run(1);
         Check.is("the first one", x.registerOf(2, 0) * 100 + x.registerOf(2, 1), 100);
         Check.is("room again", x.input(17, 18), 16);
+        for (int k = 2; k <= 17; k++) {
+            x.register(8, 0, 0);
+            x.run(1);
+            Check.is("input " + k, x.registerOf(1, 0), k);
+            Check.is("its tag", x.registerOf(1, 1), k == 17 ? 19 : 1 - k);
+        }
     }
 
     private static void makeAndDrop() {
         WardEngine x = engine("make:tag=2;owner=fresh;drop:owner=va;halt:");
+        x.word(0, 1, 1, 9);
         x.word(1, 1, 1, 9);
         x.word(4, 1, 1, 9);
         x.word(5, 3, 4, 0);
@@ -259,7 +267,7 @@ public final class MachineTest {
         Check.is("no more", x.wordOf(14, 2), 0);
         Check.is("makes", x.state(6), 2);
         x.run(1);
-        Check.is("dropped", x.wordOf(1, 2) + x.wordOf(4, 2), 0);
+        Check.is("dropped", x.wordOf(0, 2) + x.wordOf(1, 2) + x.wordOf(4, 2), 0);
         Check.is("nothing else of them", x.wordOf(1, 0) + x.wordOf(4, 1), 2);
         Check.is("drop sets no register", x.registerOf(3, 0) * 10 + x.registerOf(3, 1), 90);
         Check.is("others stay", x.wordOf(2, 2), 2);

@@ -14,6 +14,7 @@ public final class PolicyTest {
         faultsOfRules();
         openOnes();
         whatStays();
+        longTexts();
         Check.end("PolicyTest");
     }
 
@@ -92,6 +93,9 @@ public final class PolicyTest {
         fault("@haltaaaaaaaaaaaaaaaaaaaaaaaaaaaaaaaaaaaaa:");
         fault("add:tag=12@ab;");
         fault("add:tag=@ab;");
+        fault("add:tag=@az;");
+        fault("add:tag=@zz;");
+        fault("add:@needneed 1;");
         fault("add:tag=@12345678;");
         fault("add:tag=@00000000;");
         fault("add:tag=a@12345678;");
@@ -197,6 +201,22 @@ public final class PolicyTest {
         good("add:tag=(1?1:1)+(1?1:1)+(1?1:1)+(1?1:1)+(1?1:1)+(1?1:1)+(1?1:1)+(1?1:1)+(1?1:1)+(1?1:1)+(1?1:1);");
         fault("add:tag=!" + "(".repeat(9) + "1@?(1):1;");
         fault("add:tag=!" + "(".repeat(8) + "1?@(1):1;");
+    }
+
+    private static void longTexts() {
+        WardEngine x = new WardEngine();
+        String longest = "add:tag=1" + "+1".repeat(445) + ";";
+        for (int k = 0; k < 20; k++) {
+            Check.is("900 signs", Check.policy(x, longest), WardEngine.NONE);
+        }
+        Check.is("900 signs", x.put(0), 900);
+        x.code(0, 3, 0);
+        x.run(1);
+        Check.is("446 ones", x.registerOf(0, 1), 446);
+        Check.is("900 signs and no end", Check.policy(x, "add:tag=1" + "+1".repeat(445) + "+"), 900);
+        Check.is("a kind again at the end", Check.policy(x, " ".repeat(893) + "go:go:;"), 896);
+        Check.is("only rules", Check.policy(x, String.join(":", Model.KINDS) + ":"), WardEngine.NONE);
+        Check.is("brackets alone", Check.policy(x, "(".repeat(900)), 0);
     }
 
     private static void whatStays() {

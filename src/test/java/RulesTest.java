@@ -184,6 +184,11 @@ public final class RulesTest {
         Check.is("i of others", x.registerOf(2, 1), 0);
         Check.is("i of the next", x.registerOf(3, 1), 60);
         Check.is("the inputs", x.registerOf(1, 0) * 10 + x.registerOf(3, 0), 56);
+        x.input(7, 70);
+        x.begin(0);
+        x.code(0, Check.code(18, 1, 0, 0, 0), 0);
+        x.run(1);
+        Check.is("i without an input", x.cacheOf(0, 19), 0);
     }
 
     private static void wholeBits() {
@@ -221,6 +226,24 @@ public final class RulesTest {
         Check.is("drop of owner 0", x.wordOf(2, 2), 7);
         Check.is("drop's register", x.registerOf(5, 1), 15);
         Check.is("next", x.registerOf(8, 1), 5);
+    }
+
+    /** Rules that end in the midst of an expression, many times, and then one that is worked out to its end. */
+    private static void nothingIsLeftOver() {
+        WardEngine x = new WardEngine();
+        Check.policy(x, "add:tag=pair(b,c);jump:move:tag=1+(2+(3+(4+pair(0-7,n))));");
+        for (int k = 0; k < 40; k++) {
+            x.begin(0);
+            x.code(0, Check.code(3, 1, 1, 2, 0), 0);
+            x.code(1, Check.code(13, 0, 0, 0, 0), 0);
+            x.run(119);
+            x.code(1, Check.code(2, 1, 1, 2, 0), 0);
+            Check.is("no room", x.run(1), 0);
+        }
+        x.begin(0);
+        x.code(0, Check.code(2, 1, 0, 0, 0), 0);
+        x.run(1);
+        Check.is("the sum", x.registerOf(1, 1), 1000010);
     }
 
     private static void orderOfStatements() {
@@ -274,5 +297,6 @@ public final class RulesTest {
         Check.is("first of no pair", y.registerOf(2, 1), 1000000);
         Check.is("second of no pair", y.registerOf(8, 1), 0);
         Check.outside("pairOf(0, 0)", () -> y.pairOf(0, 0));
+        nothingIsLeftOver();
     }
 }

@@ -4,6 +4,7 @@ public final class TwinTest {
 
     public static void main(String[] args) {
         twin();
+        whatDoesNotShow();
         apart();
         swap();
         unlikeCode();
@@ -68,6 +69,24 @@ public final class TwinTest {
         }
         Check.is("it came to the violation", x.state(0), 3);
         Check.is("before", x.registerOf(5, 1), 0);
+    }
+
+    private static void whatDoesNotShow() {
+        WardEngine x = new WardEngine();
+        Check.policy(x, "mark:tag=before;next=clear;in:tag=i;");
+        x.begin(3);
+        x.code(0, Check.code(21, 1, 0, 0, 0), 7);
+        x.code(1, Check.code(21, 2, 0, 0, 0), 8);
+        x.code(2, Check.code(18, 3, 0, 0, 0), 9);
+        x.input(5, 6);
+        x.run(1);
+        x.twin();
+        x.swap();
+        x.run(2);
+        Check.is("before", x.registerOf(2, 1), 7);
+        Check.is("clear", x.registerOf(8, 1), 3);
+        Check.is("the input", x.registerOf(3, 0), 5);
+        Check.is("the input's tag", x.registerOf(3, 1), 6);
     }
 
     private static void apart() {
@@ -166,5 +185,12 @@ public final class TwinTest {
         Check.is("old ones aren't seen", x.unlike(3), 0);
         x.twin();
         Check.is("old ones aren't seen", x.unlike(3), WardEngine.NONE);
+        WardEngine y = new WardEngine();
+        Check.policy(y, "out:");
+        y.register(0, 5, 0);
+        y.code(0, 17, 0);
+        y.run(1);
+        y.begin(0);
+        Check.is("one that was put out before begin", y.unlike(3), WardEngine.NONE);
     }
 }
