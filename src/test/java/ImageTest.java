@@ -176,15 +176,6 @@ public final class ImageTest {
 
     private static void listing() {
         WardEngine x = new WardEngine();
-        String[] kinds = Model.KINDS.toArray(new String[0]);
-        for (int kind = 0; kind < 22; kind++) {
-            x.code(kind, kind, 0);
-            Check.same("listing of " + kind, Check.listing(x, kind), kinds[kind]);
-        }
-        for (int kind = 22; kind < 32; kind++) {
-            x.code(kind, kind, 0);
-            Check.same("listing of " + kind, Check.listing(x, kind), "none " + kind);
-        }
         x.code(40, Check.code(4, 1, 2, 3, -32768), Integer.MIN_VALUE);
         Check.same("longest", Check.listing(x, 40), "subtract a 1 b 2 c 3 n -32768 tag -2147483648");
         x.code(41, Check.code(3, 0, 7, 0, 0), 5);

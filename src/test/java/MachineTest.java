@@ -55,7 +55,8 @@ public final class MachineTest {
         }
     }
 
-    private static void begin() {
+    /** One that was busy and begins anew, while its twin has still to run. */
+    private static WardEngine begun() {
         WardEngine x = engine("constant:tag=pair(n,clear);out,in,make:owner=1;halt:need 0;move:tag=clear;");
         x.code(0, Check.code(1, 1, 0, 0, 1), 4);
         x.code(1, Check.code(17, 1, 0, 0, 0), 4);
@@ -67,13 +68,19 @@ public final class MachineTest {
         Check.is("a violation", x.state(0), 3);
         Check.is("blame", x.blame() > 0 ? 1 : 0, 1);
         x.begin(6);
+        return x;
+    }
+
+    private static void begin() {
+        WardEngine words = begun();
+        for (int k = 0; k < 96; k++) {
+            Check.is("word " + k, words.wordOf(k, 0) | words.wordOf(k, 1) | words.wordOf(k, 2), 0);
+        }
+        WardEngine x = begun();
         for (int what = 0; what < 10; what++) {
             Check.is("state(" + what + ")", x.state(what), 0);
         }
         Check.is("blame", x.blame(), WardEngine.NONE);
-        for (int k = 0; k < 96; k++) {
-            Check.is("word " + k, x.wordOf(k, 0) | x.wordOf(k, 1) | x.wordOf(k, 2), 0);
-        }
         for (int k = 0; k < 64; k++) {
             Check.is("code " + k, x.codeOf(k, 0) | x.codeOf(k, 1), 0);
         }

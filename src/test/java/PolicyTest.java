@@ -30,13 +30,14 @@ public final class PolicyTest {
     }
 
     private static void kinds() {
-        WardEngine x = new WardEngine();
         for (int kind = 0; kind < KINDS.length; kind++) {
-            Check.is(KINDS[kind], Check.policy(x, KINDS[kind] + ":tag=n;"), WardEngine.NONE);
+            WardEngine one = Check.ruled("halt,mark:tag=a;");
+            Check.is(KINDS[kind], Check.policy(one, KINDS[kind] + ":tag=n;"), WardEngine.NONE);
             for (int k = 0; k < KINDS.length; k++) {
-                Check.is("names(" + k + ") of " + KINDS[kind], x.names(k), k == kind ? 1 << 10 : WardEngine.NONE);
+                Check.is("names(" + k + ") of " + KINDS[kind], one.names(k), k == kind ? 1 << 10 : WardEngine.NONE);
             }
         }
+        WardEngine x = new WardEngine();
         Check.good("all in one", () -> Check.policy(x, String.join(",", KINDS) + ":tag=a;need pc;"));
         for (int k = 0; k < KINDS.length; k++) {
             Check.is("names(" + k + ")", x.names(k), 3);
@@ -204,19 +205,18 @@ public final class PolicyTest {
     }
 
     private static void longTexts() {
-        WardEngine x = new WardEngine();
-        String longest = "add:tag=1" + "+1".repeat(445) + ";";
+        WardEngine x = Check.ruled("add:tag=1" + "+1".repeat(445) + ";");
         for (int k = 0; k < 20; k++) {
-            Check.is("900 signs", Check.policy(x, longest), WardEngine.NONE);
+            Check.is("900 signs", x.policy(), WardEngine.NONE);
         }
         Check.is("900 signs", x.put(0), 900);
         x.code(0, 3, 0);
         x.run(1);
         Check.is("446 ones", x.registerOf(0, 1), 446);
-        Check.is("900 signs and no end", Check.policy(x, "add:tag=1" + "+1".repeat(445) + "+"), 900);
-        Check.is("a kind again at the end", Check.policy(x, " ".repeat(893) + "go:go:;"), 896);
-        Check.is("only rules", Check.policy(x, String.join(":", Model.KINDS) + ":"), WardEngine.NONE);
-        Check.is("brackets alone", Check.policy(x, "(".repeat(900)), 0);
+        fault("add:tag=1" + "+1".repeat(445) + "+@");
+        fault(" ".repeat(893) + "go:@go:;");
+        good(String.join(":", Model.KINDS) + ":");
+        fault("@" + "(".repeat(900));
     }
 
     private static void whatStays() {

@@ -8,13 +8,17 @@ import java.util.Random;
 
 /** All promises: the class against the plain model, over runs drawn from fixed seeds. */
 public final class RandomRunsTest {
-    private static final int RUNS = 250;
+    private static final int RUNS = 4000;
+    // What an object answers behind its 512th call is free, so that no run is longer; the last ones look around.
+    private static final int MOST_CALLS = 512;
+    private static final int CALLS_OF_PARTS = 260;
     private static final int[] EDGES = {0, 1, -1, 2, 3, 7, 8, 9, 15, 16, 39, 40, 59, 60, 63, 64, 95, 96, 1000000, 1000059,
         Integer.MAX_VALUE, Integer.MIN_VALUE};
     private static final int[] SIGNS = {' ', '\n', '#', ':', ';', '=', '<', '!', '(', ')', ',', '?', '-', '~', '>', 'A', '*',
         'a', 'z', '0', '9', '%', '&'};
 
     private final Random random;
+    private int calls;
     private final WardEngine engine = new WardEngine();
     private final Model model = new Model();
     private final List<String> told = new ArrayList<>();
@@ -75,6 +79,10 @@ public final class RandomRunsTest {
     }
 
     private boolean call(String name, int... args) {
+        if (calls == MOST_CALLS) {
+            return true;
+        }
+        calls++;
         Object[] boxed = new Object[args.length];
         StringBuilder shown = new StringBuilder(name + "(");
         for (int k = 0; k < args.length; k++) {
@@ -93,18 +101,29 @@ public final class RandomRunsTest {
     }
 
     private boolean goes() {
-        boolean good = true;
-        for (int k = 0; k < 40 && good; k++) {
+        boolean good = random.nextInt(10) == 0 || text(policyText()) && call("policy") && text(imageText()) && call("image");
+        while (calls < CALLS_OF_PARTS && good) {
             good = part();
         }
-        return good && lookAtAll() && call("swap") && lookAtAll();
+        good = good && runs();
+        for (int half = 0; half < 2 && good; half++) {
+            int until = calls + (MOST_CALLS - calls) / 2;
+            while (calls < until && good) {
+                good = look();
+            }
+            good = good && call("swap");
+        }
+        while (calls < MOST_CALLS && good) {
+            good = look();
+        }
+        return good;
     }
 
     private boolean part() {
         switch (random.nextInt(16)) {
             case 0:
             case 1:
-                return text(spoiled(policyText())) && call("policy") && namesAll();
+                return text(spoiled(policyText())) && call("policy") && someNames();
             case 2:
             case 3:
                 return text(spoiled(imageText())) && call("image");
@@ -142,7 +161,7 @@ public final class RandomRunsTest {
         }
         for (int k = 0; k < 4 && good; k++) {
             good = call("run", runLength()) && call("state", 0) && look() && look();
-            if (engine.state(0) == 5) {
+            if (model.state(0) == 5) {
                 good = good && call("input", value(), tag());
             }
         }
@@ -150,7 +169,7 @@ public final class RandomRunsTest {
     }
 
     private boolean stopped() {
-        return engine.state(0) >= 1 && engine.state(0) <= 4;
+        return model.state(0) >= 1 && model.state(0) <= 4;
     }
 
     private int runLength() {
@@ -158,10 +177,10 @@ public final class RandomRunsTest {
         return some[random.nextInt(random.nextInt(10) == 0 ? some.length : 9)];
     }
 
-    private boolean namesAll() {
+    private boolean someNames() {
         boolean good = true;
-        for (int kind = -1; kind <= 22; kind++) {
-            good &= call("names", kind);
+        for (int k = 0; k < 6; k++) {
+            good &= call("names", random.nextInt(24) - 1);
         }
         return good;
     }
@@ -178,10 +197,10 @@ public final class RandomRunsTest {
             two = one.replace(from[k], to[k]);
             good = text(one) && call("policy") && call("keep") && text(two) && call("policy");
         }
-        for (int kind = 0; kind < 22 && good; kind++) {
-            good = call("differ", kind, random.nextInt(9) == 0 ? edge() : 1 + random.nextInt(3));
-            for (int name = -1; name <= 15; name++) {
-                good &= call("witness", name);
+        for (int k = 0; k < 8 && good; k++) {
+            good = call("differ", random.nextInt(22), random.nextInt(9) == 0 ? edge() : 1 + random.nextInt(3));
+            for (int look = 0; look < 4; look++) {
+                good &= call("witness", random.nextInt(17) - 1);
             }
         }
         return good;
@@ -215,46 +234,24 @@ public final class RandomRunsTest {
             case 4:
                 return call("wordOf", k, what);
             case 5:
-                return call("output", k);
+                return call("output", within(model.state(1), 41));
             case 6:
-                return call("pairOf", k, what);
+                return call("pairOf", within(model.state(7), 61), random.nextInt(4) - 1);
             case 7:
                 return call("blame");
             case 8:
-                return call("journal", random.nextInt(19) - 1, random.nextInt(8) - 1);
+                return call("journal", within(model.state(9), 17), random.nextInt(8) - 1);
             case 9:
                 return call("count", random.nextInt(24) - 1, what);
             case 10:
-                return call("cacheOf", random.nextInt(11) - 1, random.nextInt(28) - 1);
+                return call("cacheOf", within(model.state(8), 9), random.nextInt(28) - 1);
             case 11:
                 return call("unlike", what);
             case 12:
-                return call("end", edge());
+                return random.nextInt(5) == 0 ? call("end", edge()) : call("count", random.nextInt(22), random.nextInt(4));
             default:
-                return call("put", random.nextInt());
+                return call("put", random.nextInt(3) == 0 ? random.nextInt() : 0) && call("registerOf", random.nextInt(9), random.nextInt(2));
         }
-    }
-
-    private boolean lookAtAll() {
-        boolean good = call("blame");
-        for (int k = -1; k <= 96; k++) {
-            for (int what = -1; what <= 3; what++) {
-                good &= call("codeOf", k, what) & call("wordOf", k, what) & call("pairOf", k, what);
-            }
-            good &= call("output", k);
-        }
-        for (int k = -1; k <= 22; k++) {
-            for (int what = -1; what <= 25; what++) {
-                good &= call("registerOf", k, what) & call("journal", k, what) & call("count", k, what);
-                good &= call("cacheOf", k, what) & call("state", what) & call("unlike", what);
-            }
-        }
-        for (int k = 0; k < 12; k++) {
-            for (int i = -1; i < 50; i++) {
-                good &= call("listing", k, i);
-            }
-        }
-        return good;
     }
 
     private boolean text(String text) {
@@ -283,6 +280,11 @@ public final class RandomRunsTest {
             }
         }
         return all.toString();
+    }
+
+    /** One of those that there are, mostly, or the next one on either side. */
+    private int within(int count, int most) {
+        return random.nextInt(12) == 0 ? edge() : random.nextInt(Math.min(count, most) + 2) - 1;
     }
 
     private int edge() {
@@ -319,14 +321,15 @@ public final class RandomRunsTest {
         }
         int k = 0;
         int count = most ? kinds.size() : random.nextInt(kinds.size());
+        int enough = random.nextInt(random.nextInt(8) == 0 ? 450 : 150);
         while (k < count) {
             all.append(kinds.get(k++));
             while (k < count && random.nextInt(3) > 0) {
                 all.append(blank()).append(',').append(blank()).append(kinds.get(k++));
             }
             all.append(blank()).append(':').append(blank());
-            // Behind so many signs the kinds that are left must still fit in.
-            if (all.length() < 450) {
+            // Behind so many signs the kinds that are left must still fit in, and calls must be left for them.
+            if (all.length() < enough) {
                 statements(all);
             }
         }
@@ -402,7 +405,7 @@ public final class RandomRunsTest {
         if (random.nextBoolean()) {
             all.append("clear ").append(number()).append(';');
         }
-        int lines = random.nextInt(25);
+        int lines = random.nextInt(4) == 0 ? random.nextInt(25) : 8 + random.nextInt(6);
         boolean inputs = random.nextInt(6) == 0;
         for (int k = 0; k < lines; k++) {
             all.append(inputs && random.nextInt(4) > 0 ? "input 3" : line()).append(blank()).append(';').append(blank());
@@ -439,7 +442,11 @@ public final class RandomRunsTest {
     }
 
     private String instructionLine() {
-        StringBuilder all = new StringBuilder(Model.KINDS.get(random.nextInt(22)));
+        String kind = Model.KINDS.get(random.nextInt(22));
+        if (kind.equals("halt") && random.nextInt(4) > 0) {
+            kind = "mark";
+        }
+        StringBuilder all = new StringBuilder(kind);
         List<String> fields = new ArrayList<>(List.of("a", "b", "c", "n", "tag"));
         java.util.Collections.shuffle(fields, random);
         if (random.nextInt(60) == 0) {
@@ -449,7 +456,7 @@ public final class RandomRunsTest {
             if (random.nextInt(3) > 0) {
                 boolean register = field.length() == 1 && !field.equals("n");
                 String number = register ? "" + random.nextInt(random.nextInt(60) == 0 ? 10 : 8)
-                        : random.nextInt(6) == 0 ? number() : "" + random.nextInt(9);
+                        : random.nextInt(6) == 0 ? number() : "" + random.nextInt(6);
                 all.append(' ').append(field).append(' ').append(number);
             }
         }

@@ -1,3 +1,5 @@
+import java.util.Arrays;
+
 /** Promises 27 to 29: twin, swap, unlike; section 7. */
 public final class TwinTest {
     private static final String POLICY = "constant:tag=n;out:in:make:owner=fresh;add:tag=pair(b,n);mark:tag=before;halt:need 0;";
@@ -24,51 +26,82 @@ public final class TwinTest {
         return x;
     }
 
-    /** All that can be asked of the machine at hand. */
-    private static String all(WardEngine x) {
+    private static final int PARTS = 4;
+
+    /** All that can be asked of the machine at hand, in parts, as an object has no more than 512 calls. */
+    private static String part(WardEngine x, int part) {
         StringBuilder all = new StringBuilder();
         for (int what = 0; what < 10; what++) {
             all.append(x.state(what)).append(' ');
         }
         for (int k = 0; k < 96; k++) {
-            all.append(x.wordOf(k, 0)).append(x.wordOf(k, 1)).append(x.wordOf(k, 2));
-            all.append(k < 64 ? x.codeOf(k, 0) + " " + x.codeOf(k, 1) : "");
-            all.append(k < 9 ? x.registerOf(k, 0) + " " + x.registerOf(k, 1) : "");
-            for (int what = 0; what < 6 && k < x.state(9); what++) {
-                all.append(x.journal(k, what)).append(' ');
+            if (part == 0) {
+                all.append(x.wordOf(k, 0)).append(x.wordOf(k, 1)).append(x.wordOf(k, 2));
+            } else if (part == 1) {
+                all.append(k < 64 ? x.codeOf(k, 0) + " " + x.codeOf(k, 1) : "");
+                all.append(k < 9 ? x.registerOf(k, 0) + " " + x.registerOf(k, 1) : "");
+            } else if (part == 2 && k < x.state(9)) {
+                all.append(Arrays.toString(Check.entry(x, k)));
+            } else if (part == 3) {
+                all.append(k < 22 ? Arrays.toString(Check.counts(x, k)) : "");
             }
-            for (int what = 0; what < 25 && k < x.state(8); what++) {
-                all.append(what > 4 && what < 10 ? 0 : x.cacheOf(k, what)).append(' ');
-            }
-            all.append(k < x.state(7) ? x.pairOf(k, 0) + " " + x.pairOf(k, 1) : "");
-            all.append(k < Math.min(40, x.state(1)) ? " " + x.output(k) : "");
-            all.append(k < 22 ? " " + x.count(k, 0) + x.count(k, 1) + x.count(k, 2) + x.count(k, 3) : "");
         }
-        return all.append(x.blame()).toString();
+        return all.append(kept(x, part)).append(x.blame()).toString();
+    }
+
+    private static String kept(WardEngine x, int part) {
+        StringBuilder all = new StringBuilder();
+        for (int k = 0; k < 8 && part == 2 && k < x.state(8); k++) {
+            for (int what = 0; what < 25; what += what == 4 ? 6 : 1) {
+                all.append(x.cacheOf(k, what)).append(' ');
+            }
+        }
+        for (int k = 0; k < 60 && part == 3 && k < x.state(7); k++) {
+            all.append(x.pairOf(k, 0)).append(' ').append(x.pairOf(k, 1)).append(' ');
+        }
+        for (int k = 0; k < 40 && part == 3 && k < x.state(1); k++) {
+            all.append(x.output(k)).append(' ');
+        }
+        return all.toString();
+    }
+
+    /** A busy one behind so many instructions, and its twin. */
+    private static WardEngine withTwin(int done) {
+        WardEngine x = busy();
+        x.run(done);
+        x.twin();
+        return x;
     }
 
     private static void twin() {
-        WardEngine x = busy();
-        Check.is("unlike at first", x.unlike(0), 0);
+        Check.is("unlike at first", busy().unlike(0), 0);
         for (int k = 0; k < 8; k++) {
-            x.twin();
-            String one = all(x);
-            x.swap();
-            Check.same("the twin after " + k, all(x), one);
-            for (int what = 0; what < 4; what++) {
-                Check.is("unlike(" + what + ")", x.unlike(what), WardEngine.NONE);
-            }
-            if (k < 7) {
-                // What does not show by itself (before, clear, inputs) shows by what both do next.
-                x.run(1);
-                String next = all(x);
-                x.swap();
-                x.run(1);
-                Check.same("both go on alike after " + k, all(x), next);
+            for (int part = 0; part < PARTS; part++) {
+                WardEngine x = withTwin(k);
+                WardEngine y = withTwin(k);
+                y.swap();
+                Check.same("the twin after " + k, part(y, part), part(x, part));
+                for (int what = 0; what < 4; what++) {
+                    Check.is("unlike(" + what + ")", y.unlike(what), WardEngine.NONE);
+                }
+                goOn(k, part);
             }
         }
+        WardEngine x = withTwin(7);
         Check.is("it came to the violation", x.state(0), 3);
         Check.is("before", x.registerOf(5, 1), 0);
+    }
+
+    /** What does not show by itself (before, clear, inputs) shows by what both do next. */
+    private static void goOn(int done, int part) {
+        if (done < 7) {
+            WardEngine x = withTwin(done);
+            x.run(1);
+            WardEngine y = withTwin(done);
+            y.swap();
+            y.run(1);
+            Check.same("both go on alike after " + done, part(y, part), part(x, part));
+        }
     }
 
     private static void whatDoesNotShow() {
@@ -90,18 +123,19 @@ public final class TwinTest {
     }
 
     private static void apart() {
-        WardEngine x = busy();
-        x.twin();
-        String before = all(x);
-        x.run(6);
-        x.code(0, 0, 0);
-        x.word(0, 1, 1, 1);
-        x.input(1, 1);
-        x.swap();
-        Check.same("the twin is another machine", all(x), before);
-        x.begin(0);
-        x.swap();
-        Check.is("this one stays", x.state(2), 6);
+        for (int part = 0; part < PARTS; part++) {
+            WardEngine x = busy();
+            x.twin();
+            x.run(6);
+            x.code(0, 0, 0);
+            x.word(0, 1, 1, 1);
+            x.input(1, 1);
+            x.swap();
+            Check.same("the twin is another machine", part(x, part), part(busy(), part));
+            x.begin(0);
+            x.swap();
+            Check.is("this one stays", x.state(2), 6);
+        }
     }
 
     private static void swap() {
