@@ -226,7 +226,7 @@ public final class EdgesOfCacheTest {
     }
 
     private static void untoldOfHits() {
-        Check.sentence("tag, next, owner that the rule tells (.. and where it tells none)");
+        Check.sentence("tag, next, owner that the rule tells (0 of a VIOLATION, and where it tells none)");
         WardEngine x = Check.ready("mark:store:tag=1;", "mark a 1;mark a 2;store n 4;store n 5;register 1 0 tag 11;register 2 0 tag 12;"
                 + "word 4 0 owner 21;word 5 0 owner 22;register 8 0 tag 30;");
         x.run(1);

@@ -83,7 +83,7 @@ public final class EdgesOfPolicyTest {
     }
 
     private static void numbers() {
-        Check.sentence("numbers (one to seven digits, as many as there are)");
+        Check.sentence("numbers (one to seven digits, as many as there are: 12ab is two tokens)");
         Check.goodPolicy("add:tag=0;");
         Check.goodPolicy("add:tag=9999999;");
         Check.goodPolicy("add:tag=0000000;");

@@ -289,6 +289,12 @@ public final class EdgesOfRulesTest {
         gives("pair(b,c)+pair(c,b)-pair(c,b)-pair(b,c)", LEAST, MOST, 0);
         gives("pair(pair(b,c),pair(b,c))", 1, 2, 1000001);
         gives("pair(0,0)", 0, 0, 1000000);
+        // What stands first is worked out first.
+        gives("pair(pair(b,b),pair(c,c))", 1, 2, 1000002);
+        gives("first(first(pair(pair(b,b),pair(c,c))))-first(1000000)", 1, 2, 0);
+        gives("pair(b,b)<pair(c,c)", 1, 2, 1);
+        gives("pair(c,c)<=pair(b,b)", 1, 2, 1);
+        gives("pair(b,c)==1000000?pair(c,b):0", 1, 2, 1000001);
         WardEngine x = Check.ready("add:tag=pair(b,c);", "add a 1 b 2 c 3;add a 4 b 3 c 2;add a 5 b 2 c 3;add a 6 b 2 c 2;"
                 + "register 2 0 tag 7;register 3 0 tag -8;");
         Check.is("run", x.run(4), 4);
