@@ -7,6 +7,7 @@ public final class EdgesOfMachineTest {
 
     public static void main(String[] args) {
         code();
+        everyBit();
         words();
         registers();
         inputs();
@@ -54,6 +55,25 @@ public final class EdgesOfMachineTest {
         Check.row("its neighbours", new int[] {x.codeOf(1, 0), x.codeOf(1, 1), x.codeOf(62, 0), x.codeOf(62, 1)}, 0, 0, 0, 0);
         x.code(0, 0, 5);
         Check.row("once more", new int[] {x.codeOf(0, 0), x.codeOf(0, 1)}, 0, 5);
+    }
+
+    private static void everyBit() {
+        Check.sentence("an int and a TAG each .. an int and two tags each, HELD and OWNER .. Tags are ints.");
+        for (int bit = 0; bit < 32; bit++) {
+            int v = 1 << bit;
+            WardEngine x = Check.ready("in,out:", "in a 2;out a 2;out a 1;");
+            x.code(9, v, ~v);
+            x.word(9, v, ~v, -v);
+            x.register(1, ~v, v);
+            x.input(v, ~v);
+            Check.row("code", new int[] {x.codeOf(9, 0), x.codeOf(9, 1)}, v, ~v);
+            Check.row("word", Check.word(x, 9), v, ~v, -v);
+            Check.row("register", Check.register(x, 1), ~v, v);
+            Check.is("run", x.run(3), 3);
+            Check.row("outputs", new int[] {x.output(0), x.output(1)}, v, ~v);
+            x.register(8, ~v, v);
+            Check.row("PC", Check.register(x, 8), ~v, v);
+        }
     }
 
     private static void words() {

@@ -24,6 +24,7 @@ public final class EdgesOfPolicyTest {
         longestTexts();
         newPolicy();
         emptyCaches();
+        allElseStays();
         faultyPolicy();
         names();
         noSuchKind();
@@ -456,6 +457,22 @@ public final class EdgesOfPolicyTest {
         Check.is("asked anew", x.journal(0, 2), 2);
         Check.row("from 0 on", figures(x), 0, 3, 1, 0, 1, 3);
         Check.row("counts go on", Check.counts(x, 21), 3, 3, 1, 0);
+    }
+
+    private static void allElseStays() {
+        Check.sentence("NONE, and the caches of both machines are empty, without questions and hits .. All else stays.");
+        WardEngine x = Check.ready("mark:tag=pair(n,clear);next=3;out:make:owner=fresh;in:",
+                "clear 9;mark a 1 n 4 tag 77;out a 2;make a 3 b 4;in a 5 tag 79;register 2 8;register 4 2;input 6 tag 7;input 5 tag 4;");
+        x.run(4);
+        x.code(4, Check.code(21, 6, 0, 0, 0), 0);
+        Check.is("policy", Check.policy(x, "mark:tag=before;owner=clear;need fresh==3;"), WardEngine.NONE);
+        Check.row("pairs", new int[] {x.state(7), x.pairOf(0, 0), x.pairOf(0, 1)}, 1, 4, 9);
+        Check.row("outputs, done, makes", new int[] {x.state(1), x.output(0), x.state(2), x.state(6)}, 1, 8, 4, 1);
+        Check.row("made words", new int[] {x.wordOf(0, 2), x.wordOf(1, 2), x.wordOf(2, 2)}, 2, 2, 0);
+        Check.row("the PC", Check.register(x, 8), 4, 3);
+        Check.is("an input waits", x.state(5), 1);
+        Check.is("run", x.run(1), 1);
+        Check.is("before is the tag of in, which the earlier policy let be done", x.registerOf(6, 1), 79);
     }
 
     private static void faultyPolicy() {

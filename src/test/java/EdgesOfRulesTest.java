@@ -11,6 +11,7 @@ public final class EdgesOfRulesTest {
         leftToRight();
         theOtherOne();
         untold();
+        untoldOfEachKind();
         registersThatTheBitsName();
         theWord();
         theInput();
@@ -142,6 +143,26 @@ public final class EdgesOfRulesTest {
         WardEngine y = Check.ready("make:", "register 2 16;make a 1 b 2;make a 1 b 2;");
         Check.is("owner 0, too", y.run(2), 2);
         Check.is("they are free then", y.registerOf(1, 0), 0);
+    }
+
+    private static void untoldOfEachKind() {
+        Check.sentence("TAG and NEXT, as it took them (also those that aren't told; also of kinds that set none)");
+        for (int kind = 0; kind < 22; kind++) {
+            WardEngine x = Check.ready(Model.KINDS.get(kind) + ":", "clear 51;register 8 0 tag 52;input 1 tag 53;");
+            for (int r = 0; r < 8; r++) {
+                x.register(r, r, 60 + r);
+            }
+            x.word(6, 1, 71, 72);
+            x.code(0, Check.code(kind, 5, 6, 7, 0), 54);
+            Check.is("kind " + kind, x.run(1), 1);
+            int tag = kind == 21 ? 65 : 0;
+            Check.row("journal of kind " + kind, Check.entry(x, 0), 0, kind, 2, tag, 52, kind == 0 ? 1 : 0);
+            Check.row("cache of kind " + kind, new int[] {x.cacheOf(0, 2), x.cacheOf(0, 3), x.cacheOf(0, 4)}, 0, 0, 0);
+            boolean sets = kind >= 1 && kind <= 11 || kind == 16 || kind == 18 || kind == 19;
+            Check.is("a's tag behind kind " + kind, x.registerOf(5, 1), sets ? 0 : 65);
+            Check.is("the held tag behind kind " + kind, x.wordOf(6, 1), kind == 12 ? 0 : 71);
+            Check.is("the owner behind kind " + kind, x.wordOf(6, 2), 72);
+        }
     }
 
     private static void registersThatTheBitsName() {
